@@ -19,6 +19,7 @@ public final class DeedsTest {
         promise15UndoOfEach();
         promise15TenAreKnown();
         promise16Now();
+        sixVillagesEachForItself();
         Check.end();
     }
 
@@ -305,5 +306,43 @@ public final class DeedsTest {
             Check.due("now(" + what + ")", x.now(what), BAD);
         }
         Check.due("court without villages", new KingPrices().now(0), NONE);
+    }
+
+    /** Hens, tallies and coins of one village never come to another one's. */
+    private static void sixVillagesEachForItself() {
+        KingPrices x = Check.told("v51 1 0;v52 2 0;v53 3 0;v54 4 0;v55 5 0;v56 6 0;"
+            + "r0 1 1;r1 2 1;r2 3 1;r3 4 1;r4 5 1;m1;w10;b99;");
+        int[][] want = new int[6][];
+        for (int v = 0; v < 6; v++) {
+            if (v > 0) {
+                Check.due("goes(" + v + ")", x.goes(v), v);
+            }
+            Check.due("takes", x.takes(20 + v), 20 + v);
+            Check.due("sells", x.sells(v, 6 + 3 * v), 2 + v);
+            Check.due("hides", x.hides(v, 10 + v), 10 + v);
+            int shown = 51 + v - (20 + v) - (10 + v);
+            int spare = Math.min(shown, shown + 10 + v - (1 + v));
+            want[v] = new int[] {shown, 10 + v, 1 + v, 0, 14 - 2 * v, 2 + v, spare};
+        }
+        for (int v = 0; v < 6; v++) {
+            for (int what = 0; what < 7; what++) {
+                Check.due("six: village(" + v + ", " + what + ")", x.village(v, what), want[v][what]);
+            }
+            int[] marks = {want[v][0], want[v][0] + 10 + v, want[v][0] - 1 - v, 2 * (want[v][0] + 10 + v),
+                want[v][0] - 1 - v + 2 + v, want[v][0] + 14 - 2 * v};
+            for (int kind = 0; kind < 6; kind++) {
+                Check.due("six: mark(" + kind + ", " + v + ")", x.mark(kind, v), marks[kind]);
+            }
+        }
+        Check.due("six: court", x.now(0), 5);
+        Check.due("six: basket", x.now(2), 99 + 135 - 5);
+        Check.due("six: fed by one mouth", x.now(4), 99 + 135 - 5);
+        Check.due("six: tallies", x.now(5), 54);
+        for (int v = 0; v < 6; v++) {
+            Check.due("six: pays(" + v + ")", x.pays(v), 14 - 2 * v);
+            Check.due("six: tally of " + v, x.village(v, 4), 0);
+            Check.due("six: coins of " + v, x.village(v, 5), 2 + v);
+            Check.due("six: shows(" + v + ")", x.shows(v, 10 + v), want[v][0] + 10 + v);
+        }
     }
 }

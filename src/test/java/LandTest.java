@@ -14,6 +14,7 @@ public final class LandTest {
         promise4FaultsOfTokens();
         promise4NothingChangesByFault();
         promise4ReadAnew();
+        promise4NothingStaysOfOlderTexts();
         promise5Village();
         promise6Far();
         promise7Owes();
@@ -255,6 +256,23 @@ public final class LandTest {
         Check.due("land of the empty text", x.land(), 0);
         Check.due("villages then", x.count(0), 0);
         Check.due("court then", x.now(0), NONE);
+    }
+
+    private static void promise4NothingStaysOfOlderTexts() {
+        String[] older = {SIX + "r0 1 2;d0 1 3;m9;w1;b7;", SIX + "r0 1 3;r2 3 1;d1 0 3;m8;w2;b8;",
+            SIX + "r0 1 2;d0 1 3;m9;w1;b7;!", "m1;w1;b1;v1 1 1;v1 1 1;r0 1 1;r0 1 1;d1 0 5;r"};
+        String[] newer = {"", "v9 1 0;", "v3 2 0;v4 0 0;r1 0 9;d1 0 1;", "m2;", "w4;b3;v0 0 1;"};
+        for (String text : newer) {
+            KingPrices x = new KingPrices();
+            for (int i = 0; i < older.length; i++) {
+                Check.type(x, older[i]);
+                x.land();
+                x.clear();
+            }
+            Check.type(x, text);
+            x.land();
+            Check.alike("a land told after others by " + text, Check.seen(x), Check.seen(Check.told(text)));
+        }
     }
 
     private static void promise5Village() {

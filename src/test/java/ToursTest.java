@@ -69,6 +69,7 @@ public final class ToursTest {
         tour(Check.told("v0 0 0;v9 0 0;v30 0 0;" + roads + "b5;"), 12, NONE);
         tour(Check.told("v9 0 1;v9 0 0;r0 1 1;m3;b2;"), 1, NONE);
         tour(Check.told("v9 0 1;v9 0 0;m3;b2;"), 1, NONE);
+        tour(Check.told("v1 0 0;v1 0 0;v1 0 0;r0 1 1;r1 2 1;m1;"), 3, 2, 0, 1, 2);
     }
 
     private static void promise17FromWhereItIs() {
