@@ -205,6 +205,12 @@ public final class LandTest {
         fault("b4294967297;", 1);
         fault("b18446744073709551617;", 1);
         fault("b" + "9".repeat(179), 1);
+        fault("v aa 0 0;", 2);
+        fault("v0 0 aa;", 5);
+        fault("98 5;", 0);
+        fault("m1!", 2);
+        fault("m1 100", 3);
+        fault("m1 01", 3);
         fault("v61 ! 0;", 1);
         fault("v60 0 0;100", 8);
     }
@@ -295,6 +301,11 @@ public final class LandTest {
         x.takes(5);
         Check.due("spare: 0 at least", x.village(0, 6), 0);
         Check.due("hidden", x.village(0, 1), 5);
+        KingPrices two = Check.told("v9 0 0;v20 15 0;");
+        two.hides(1, 8);
+        Check.due("spare: what is hidden serves the need", two.village(1, 6), 5);
+        two.hides(1, 9);
+        Check.due("spare: no more than is shown", two.village(1, 6), 3);
         int[][] bad = {{-1, 0}, {3, 0}, {0, -1}, {0, 7}, {LEAST, LEAST}, {MOST, MOST}, {6, 6}};
         for (int[] b : bad) {
             Check.due("village(" + b[0] + ", " + b[1] + ")", x.village(b[0], b[1]), BAD);
