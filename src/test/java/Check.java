@@ -14,9 +14,9 @@ final class Check {
     }
 
     static void type(KingPrices x, String text) {
+        int ahead = text.isEmpty() ? 0 : x.count(5);
         for (int i = 0; i < text.length(); i++) {
-            int due = x.count(5) + 1;
-            due("type in \"" + text + "\"", x.type(text.charAt(i)), due);
+            due("type in \"" + text + "\"", x.type(text.charAt(i)), ahead + i + 1);
         }
     }
 
