@@ -824,7 +824,8 @@ public final class KingPrices {
             }
             goal = due;
             bestDays = NONE;
-            for (length = least; length <= land.villages; length++) {
+            for (int villages = least; villages <= land.villages; villages++) {
+                length = villages;
                 goOn(land, 0, 0, court, basket, 0);
                 if (bestDays != NONE) {
                     return true;
@@ -872,7 +873,8 @@ public final class KingPrices {
         private int length;
 
         boolean find(Land land) {
-            for (length = 2; length <= land.villages; length++) {
+            for (int villages = 2; villages <= land.villages; villages++) {
+                length = villages;
                 for (int first = 0; first < land.villages; first++) {
                     row[0] = first;
                     if (goOn(land, 1, 1 << first)) {

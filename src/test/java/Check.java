@@ -65,6 +65,20 @@ final class Check {
         return row.append(x.trace()).toString();
     }
 
+    /** Only what deeds can change: it takes few of an object's 512 calls. */
+    static String brief(KingPrices x) {
+        StringBuilder row = new StringBuilder().append(x.count(4));
+        for (int what = 0; what < 4; what++) {
+            row.append(' ').append(x.now(what));
+        }
+        for (int v = 0, villages = x.count(0); v < villages; v++) {
+            for (int what : new int[] {0, 1, 4, 5}) {
+                row.append(' ').append(x.village(v, what));
+            }
+        }
+        return row.toString();
+    }
+
     static void alike(String what, String got, String want) {
         made++;
         if (!got.equals(want)) {

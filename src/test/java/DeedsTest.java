@@ -26,12 +26,12 @@ public final class DeedsTest {
     /** A call that is refused changes nothing. */
     private static void refused(KingPrices x, String call, String before, long got, long want) {
         Check.due(call, got, want);
-        Check.alike("seen after " + call, Check.seen(x), before);
+        Check.alike("seen after " + call, Check.brief(x), before);
     }
 
     private static void promise8Goes() {
         KingPrices x = Check.told("v9 0 0;v9 0 1;v9 0 0;v9 0 0;r0 1 2;r1 2 3;m3;b10;");
-        String before = Check.seen(x);
+        String before = Check.brief(x);
         for (int v : new int[] {-1, 4, 6, LEAST, MOST}) {
             refused(x, "goes(" + v + ")", before, x.goes(v), BAD);
         }
@@ -59,10 +59,10 @@ public final class DeedsTest {
             day += 45;
             Check.due("goes, to and fro", x.goes(i % 2 == 0 ? 5 : 0), day);
         }
-        String before = Check.seen(x);
+        String before = Check.brief(x);
         refused(x, "goes beyond day 999", before, x.goes(2), STATE);
         Check.due("goes to day 999", x.goes(1), 999);
-        before = Check.seen(x);
+        before = Check.brief(x);
         refused(x, "goes at day 999", before, x.goes(0), STATE);
         refused(x, "goes to no village at day 999", before, x.goes(6), BAD);
         refused(x, "stays at day 999", before, x.stays(), STATE);
@@ -76,7 +76,7 @@ public final class DeedsTest {
 
     private static void promise9Stays() {
         KingPrices none = Check.told("b9;m2;");
-        refused(none, "stays without villages", Check.seen(none), none.stays(), STATE);
+        refused(none, "stays without villages", Check.brief(none), none.stays(), STATE);
         KingPrices x = Check.told("v5 0 1;m4;b9;");
         int[][] want = {{1, 5, 0}, {2, 1, 0}, {3, 0, 3}, {4, 0, 7}};
         for (int[] w : want) {
@@ -91,7 +91,7 @@ public final class DeedsTest {
 
     private static void promise10Takes() {
         KingPrices x = Check.told("v20 15 0;v60 0 1;v8 0 0;r0 1 1;r1 2 1;w7;b3;m1;");
-        String before = Check.seen(x);
+        String before = Check.brief(x);
         for (int n : new int[] {0, -1, 61, LEAST, MOST}) {
             refused(x, "takes(" + n + ")", before, x.takes(n), BAD);
         }
@@ -104,12 +104,12 @@ public final class DeedsTest {
         Check.due("tally", x.village(0, 4), 6);
         Check.due("day", x.now(1), 0);
         x.hides(0, 4);
-        before = Check.seen(x);
+        before = Check.brief(x);
         refused(x, "takes what is hidden", before, x.takes(7), STATE);
         Check.due("takes below the need", x.takes(6), 4);
         Check.due("tally", x.village(0, 4), 10);
         x.goes(1);
-        before = Check.seen(x);
+        before = Check.brief(x);
         refused(x, "takes by a charter", before, x.takes(1), STATE);
         refused(x, "takes 61 by a charter", before, x.takes(61), BAD);
         x.goes(2);
@@ -118,8 +118,8 @@ public final class DeedsTest {
         Check.due("tally of 0", x.village(0, 4), 10);
         Check.due("shown of 2", x.village(2, 0), 0);
         KingPrices none = new KingPrices();
-        refused(none, "takes without villages", Check.seen(none), none.takes(60), STATE);
-        refused(none, "takes(0) without villages", Check.seen(none), none.takes(0), BAD);
+        refused(none, "takes without villages", Check.brief(none), none.takes(60), STATE);
+        refused(none, "takes(0) without villages", Check.brief(none), none.takes(0), BAD);
     }
 
     private static void promise10TheMostThatCanBeTaken() {
@@ -140,7 +140,7 @@ public final class DeedsTest {
 
     private static void promise11Hides() {
         KingPrices x = Check.told("v20 0 0;v60 0 1;");
-        String before = Check.seen(x);
+        String before = Check.brief(x);
         int[][] bad = {{-1, 1}, {2, 1}, {0, 0}, {0, 61}, {0, -1}, {6, 1}, {LEAST, 1}, {MOST, 1}, {0, LEAST}, {0, MOST}};
         for (int[] b : bad) {
             refused(x, "hides(" + b[0] + ", " + b[1] + ")", before, x.hides(b[0], b[1]), BAD);
@@ -156,10 +156,10 @@ public final class DeedsTest {
 
     private static void promise12Shows() {
         KingPrices x = Check.told("v20 0 0;v60 0 1;");
-        refused(x, "shows when none is hidden", Check.seen(x), x.shows(0, 1), STATE);
+        refused(x, "shows when none is hidden", Check.brief(x), x.shows(0, 1), STATE);
         x.hides(0, 12);
         x.hides(1, 60);
-        String before = Check.seen(x);
+        String before = Check.brief(x);
         int[][] bad = {{-1, 1}, {2, 1}, {0, 0}, {0, 61}, {0, -1}, {6, 1}, {LEAST, 1}, {MOST, 1}, {0, LEAST}, {0, MOST}};
         for (int[] b : bad) {
             refused(x, "shows(" + b[0] + ", " + b[1] + ")", before, x.shows(b[0], b[1]), BAD);
@@ -175,7 +175,7 @@ public final class DeedsTest {
     private static void promise13Pays() {
         KingPrices x = Check.told("v20 0 0;v60 0 0;w10;");
         x.takes(15);
-        String before = Check.seen(x);
+        String before = Check.brief(x);
         for (int v : new int[] {-1, 2, 6, LEAST, MOST}) {
             refused(x, "pays(" + v + ")", before, x.pays(v), BAD);
         }
@@ -190,7 +190,7 @@ public final class DeedsTest {
     private static void promise14Sells() {
         KingPrices x = Check.told("v60 0 0;v60 0 0;r0 1 1;w10;");
         x.takes(50);
-        String before = Check.seen(x);
+        String before = Check.brief(x);
         int[][] bad = {{-1, 1}, {2, 1}, {0, 0}, {0, 100}, {0, -1}, {6, 1}, {LEAST, 1}, {MOST, 1}, {0, LEAST}, {0, MOST}};
         for (int[] b : bad) {
             refused(x, "sells(" + b[0] + ", " + b[1] + ")", before, x.sells(b[0], b[1]), BAD);
@@ -213,37 +213,37 @@ public final class DeedsTest {
     private static void promise15Undo() {
         KingPrices x = Check.told("v60 10 0;v30 0 0;r0 1 2;w9;b5;m4;");
         String[] seen = new String[9];
-        seen[0] = Check.seen(x);
+        seen[0] = Check.brief(x);
         x.takes(20);
-        seen[1] = Check.seen(x);
+        seen[1] = Check.brief(x);
         x.hides(0, 7);
-        seen[2] = Check.seen(x);
+        seen[2] = Check.brief(x);
         x.shows(0, 3);
-        seen[3] = Check.seen(x);
+        seen[3] = Check.brief(x);
         x.sells(0, 10);
-        seen[4] = Check.seen(x);
+        seen[4] = Check.brief(x);
         x.goes(1);
-        seen[5] = Check.seen(x);
+        seen[5] = Check.brief(x);
         x.stays();
-        seen[6] = Check.seen(x);
+        seen[6] = Check.brief(x);
         x.pays(0);
-        seen[7] = Check.seen(x);
+        seen[7] = Check.brief(x);
         x.pays(0);
         for (int left = 7; left >= 0; left--) {
             Check.due("undo()", x.undo(), left);
-            Check.alike("seen after undo", Check.seen(x), seen[left]);
+            Check.alike("seen after undo", Check.brief(x), seen[left]);
         }
         refused(x, "undo of nothing", seen[0], x.undo(), STATE);
         Check.due("done anew", x.takes(1), 0);
         Check.due("undo of that", x.undo(), 0);
-        Check.alike("seen after that", Check.seen(x), seen[0]);
+        Check.alike("seen after that", Check.brief(x), seen[0]);
     }
 
     private static void promise15UndoOfEach() {
         KingPrices x = Check.told("v60 0 0;v9 0 0;r0 1 2;w10;");
         x.takes(30);
         x.hides(0, 10);
-        String before = Check.seen(x);
+        String before = Check.brief(x);
         for (int deed = 0; deed < 7; deed++) {
             switch (deed) {
                 case 0: x.goes(1); break;
@@ -256,7 +256,7 @@ public final class DeedsTest {
             }
             Check.due("deed " + deed + " may be undone", x.count(4), 3);
             Check.due("undo of deed " + deed, x.undo(), 2);
-            Check.alike("seen after undo of deed " + deed, Check.seen(x), before);
+            Check.alike("seen after undo of deed " + deed, Check.brief(x), before);
         }
         x.goes(7);
         x.takes(61);
