@@ -244,6 +244,13 @@ final class CourtBounds {
             Check.due("takes to a tally of 999", written.takes(n), n);
             Check.due("tally", written.village(0, 4), 999);
         }
+        KingPrices other = Check.told("v60 0 0;v60 0 0;r0 1 1;w10;");
+        other.goes(1);
+        Inside.tally(other, 1, 999);
+        Check.due("takes, the tally where it is has 999", other.takes(1), STATE);
+        Inside.tally(other, 1, 0);
+        Inside.tally(other, 0, 999);
+        Check.due("takes, the tally elsewhere has 999", other.takes(1), 1);
         KingPrices nothing = Check.told("v60 0 0;w0;");
         Inside.tally(nothing, 0, 999);
         Check.due("takes, and writes nothing on a tally of 999", nothing.takes(60), 0);

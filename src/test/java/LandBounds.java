@@ -26,6 +26,7 @@ final class LandBounds {
         everyByteBehindANumber();
         everyByteBehindALetter();
         everyLetter();
+        lettersForNumbers();
         endedBySemicolon();
         toldAhead();
         numbersAbove99();
@@ -324,6 +325,20 @@ final class LandBounds {
             fault(a + " ", begins ? 2 : 0);
             fault("v1 1 " + a + ";", 5);
             fault("m1 " + a + ";", 3);
+        }
+    }
+
+    /** A byte's number is no NUMBER, nor is a NUMBER a letter: 98 is not b, and c is not 99. */
+    private static void lettersForNumbers() {
+        for (char a = 'a'; a <= 'z'; a++) {
+            fault("b " + a + ";", 2);
+            fault("v " + a + " 0 0;", 2);
+            fault(TWO + "d0 1 " + a + ";", 19);
+            fault(TWO + "r " + a + " 1 1;", 16);
+        }
+        for (int n = 0; n <= 99; n++) {
+            fault(n + " 5;", 0);
+            fault("m1;" + n + " 5;", 3);
         }
     }
 
