@@ -27,6 +27,15 @@ final class Check {
         return x;
     }
 
+    /** A text that is at fault in this place: nothing changes, and it is still there. */
+    static void fault(String text, int place) {
+        KingPrices x = typed(text);
+        String before = seen(x);
+        due("land of \"" + text + "\"", x.land(), -10 - place);
+        alike("seen behind the fault of \"" + text + "\"", seen(x), before);
+        due("bytes behind the fault of \"" + text + "\"", x.clear(), text.length());
+    }
+
     private static int items(String text) {
         int n = 0;
         for (int i = 0; i < text.length(); i++) {
@@ -35,6 +44,15 @@ final class Check {
             }
         }
         return n;
+    }
+
+    /** Village 0 shows 33, hides 7, needs 50, has tally 13 and 2 coins. */
+    static KingPrices landOfMarks() {
+        KingPrices x = told("v60 50 0;v1 2 1;w10;");
+        x.takes(20);
+        x.sells(0, 7);
+        x.hides(0, 7);
+        return x;
     }
 
     static void due(String call, long got, long want) {

@@ -31,21 +31,12 @@ final class KindsBounds {
         theLastOf512Calls();
     }
 
-    /** Village 0 shows 33, hides 7, needs 50, has tally 13 and 2 coins. */
-    private static KingPrices landOfMarks() {
-        KingPrices x = Check.told("v60 50 0;v1 2 1;w10;");
-        x.takes(20);
-        x.sells(0, 7);
-        x.hides(0, 7);
-        return x;
-    }
-
     private static void marks() {
         Doc.terms("4 KINDS of VILLAGES are over one another: 0 VILLAGE; 1 ABBEY, 2 FORD, 5 TOWN (each under VILLAGE); 3 GRANGE (under ABBEY); 4 PORT (under FORD).",
             "MARK of a VILLAGE as if of a KIND", "\"up\" is what the KIND above does):", "VILLAGE what is shown", "ABBEY up, and what is hidden",
             "FORD up less its NEED", "GRANGE up times 2", "PORT up, and its COINS", "TOWN up, and its TALLY");
         Doc.promise(25, "`int mark(int kind, int v)`: MARK.");
-        KingPrices x = landOfMarks();
+        KingPrices x = Check.landOfMarks();
         int[] want = {33, 33 + 7, 33 - 50, (33 + 7) * 2, 33 - 50 + 2, 33 + 13};
         for (int kind = 0; kind <= 5; kind++) {
             Check.due("mark(" + kind + ", 0)", x.mark(kind, 0), want[kind]);

@@ -10,21 +10,11 @@ public final class KindsTest {
         promise27WhatMayBeUndone();
         promise28Count();
         promise29Trace();
-        theConstants();
         Check.end();
     }
 
-    /** Village 0 shows 33, hides 7, needs 50, has tally 13 and 2 coins. */
-    private static KingPrices landOfMarks() {
-        KingPrices x = Check.told("v60 50 0;v1 2 1;w10;");
-        x.takes(20);
-        x.sells(0, 7);
-        x.hides(0, 7);
-        return x;
-    }
-
     private static void promise25Mark() {
-        KingPrices x = landOfMarks();
+        KingPrices x = Check.landOfMarks();
         int[] want = {33, 40, -17, 80, -15, 46};
         String before = Check.seen(x);
         for (int kind = 0; kind < 6; kind++) {
@@ -146,7 +136,7 @@ public final class KindsTest {
     }
 
     private static void promise29Trace() {
-        KingPrices x = landOfMarks();
+        KingPrices x = Check.landOfMarks();
         Check.due("trace()", x.trace(), 0);
         long[] asked = {1, 11, 101, 1011, 10101, 100001};
         long sum = 0;
@@ -159,13 +149,5 @@ public final class KindsTest {
         }
         x.undo();
         Check.due("trace after undo", x.trace(), sum);
-    }
-
-    private static void theConstants() {
-        Check.due("BAD", KingPrices.BAD, -1);
-        Check.due("STATE", KingPrices.STATE, -2);
-        Check.due("FULL", KingPrices.FULL, -3);
-        Check.due("NONE", KingPrices.NONE, -9);
-        Check.due("NO", KingPrices.NO, -1000000);
     }
 }

@@ -42,20 +42,12 @@ final class LandBounds {
         owes();
     }
 
-    private static void fault(String text, int place) {
-        KingPrices x = Check.typed(text);
-        String before = Check.seen(x);
-        Check.due("land of \"" + text + "\"", x.land(), -10 - place);
-        Check.alike("seen behind the fault of \"" + text + "\"", Check.seen(x), before);
-        Check.due("bytes behind the fault of \"" + text + "\"", x.clear(), text.length());
-    }
-
     /** Held for 0 to 100 in the place of one number: the land that is told, or null where it is at fault. */
     private static KingPrices toldIf(boolean fair, String ahead, int n, String behind) {
         if (fair) {
             return Check.told(ahead + n + behind);
         }
-        fault(ahead + n + behind, ahead.length());
+        Check.fault(ahead + n + behind, ahead.length());
         return null;
     }
 
@@ -67,9 +59,9 @@ final class LandBounds {
             Check.due("the last village", x.village(n - 1, 0), n == 0 ? BAD : 0);
             Check.due("the one behind the last", x.village(n, 0), BAD);
         }
-        fault(SIX + ONE, 42);
-        fault(SIX + "v", 42);
-        fault(SIX + "  v61 61 61", 44);
+        Check.fault(SIX + ONE, 42);
+        Check.fault(SIX + "v", 42);
+        Check.fault(SIX + "  v61 61 61", 44);
     }
 
     private static void hensNeedCharter() {
@@ -98,11 +90,11 @@ final class LandBounds {
         for (int n = 0; n <= 10; n++) {
             Check.due("roads", Check.told(TWO + "r0 1 2;".repeat(n)).count(1), n);
         }
-        fault(TWO + "r0 1 2;".repeat(11), 84);
-        fault(TWO + "r0 1 2;".repeat(10) + "r", 84);
+        Check.fault(TWO + "r0 1 2;".repeat(11), 84);
+        Check.fault(TWO + "r0 1 2;".repeat(10) + "r", 84);
         String ring = "r0 1 1;r1 2 1;r2 3 1;r3 4 1;r4 5 1;r5 0 1;r0 2 1;r0 3 1;r0 4 1;r1 3 1;";
         Check.due("roads between others", Check.told(SIX + ring).count(1), 10);
-        fault(SIX + ring + "r2 4 1;", 112);
+        Check.fault(SIX + ring + "r2 4 1;", 112);
         Check.due("behind ten roads all else may come", Check.told(TWO + "r0 1 2;".repeat(10) + "d0 1 3;m1;").count(1), 10);
     }
 
@@ -111,8 +103,8 @@ final class LandBounds {
         for (int a = 0; a < 6; a++) {
             for (int b = 0; b < 6; b++) {
                 if (a == b) {
-                    fault(SIX + "r" + a + " " + b + " 1;", 45);
-                    fault(SIX + "d" + a + " " + b + " 1;", 45);
+                    Check.fault(SIX + "r" + a + " " + b + " 1;", 45);
+                    Check.fault(SIX + "d" + a + " " + b + " 1;", 45);
                 } else {
                     Check.due("far", Check.told(SIX + "r" + a + " " + b + " 1;").far(a, b), 1);
                     Check.due("owes", Check.told(SIX + "d" + a + " " + b + " 1;").owes(a, b), 1);
@@ -206,16 +198,16 @@ final class LandBounds {
             Check.due("writes", x.count(3), 1);
             Check.due("basket", x.now(2), 1);
             for (String again : new String[] {"m", "w", "b"}) {
-                fault(once + again + "1;", 9);
-                fault(once + again + "2;", 9);
-                fault(once + " " + again, 10);
+                Check.fault(once + again + "1;", 9);
+                Check.fault(once + again + "2;", 9);
+                Check.fault(once + " " + again, 10);
             }
             Check.type(x, once);
             Check.due("once more in another text", x.land(), 3);
         }
         for (String letter : new String[] {"m", "w", "b"}) {
-            fault(letter + "1;" + letter + "1;", 3);
-            fault(letter + "1;" + ONE + letter + "1;", 10);
+            Check.fault(letter + "1;" + letter + "1;", 3);
+            Check.fault(letter + "1;" + ONE + letter + "1;", 10);
             KingPrices x = Check.typed(letter + "1;" + letter + "1;");
             x.land();
             x.clear();
@@ -236,13 +228,13 @@ final class LandBounds {
         Check.due("; as the 181st byte", cut.type(';'), FULL);
         Check.due("land of a text that is cut", cut.land(), -190);
         Check.due("bytes of a text that is cut", cut.clear(), 180);
-        fault(ONE + blanks + " m;", 179);
-        fault(ONE + blanks + "  m", 180);
-        fault(ONE + blanks + "m2!", 179);
+        Check.fault(ONE + blanks + " m;", 179);
+        Check.fault(ONE + blanks + "  m", 180);
+        Check.fault(ONE + blanks + "m2!", 179);
         Check.due("180 blanks", Check.typed(" ".repeat(180)).land(), 0);
-        fault("9".repeat(180), 0);
-        fault("a".repeat(180), 0);
-        fault(";".repeat(180), 0);
+        Check.fault("9".repeat(180), 0);
+        Check.fault("a".repeat(180), 0);
+        Check.fault(";".repeat(180), 0);
         Check.due("items of 180 bytes", Check.told(SIX + "r0 1 2;".repeat(10) + "d0 1 1;".repeat(8) + "m1;w1;b1;   ").count(5), 0);
     }
 
@@ -257,9 +249,9 @@ final class LandBounds {
             Check.due("charter of \"" + text + "\"", x.village(0, 3), 1);
             Check.due("mouths of \"" + text + "\"", x.count(2), 4);
         }
-        fault("v45 1;", 5);
-        fault("v451;", 1);
-        fault("b9 9;", 3);
+        Check.fault("v45 1;", 5);
+        Check.fault("v451;", 1);
+        Check.fault("b9 9;", 3);
         Check.due("blanks alone", Check.told("   ").count(0), 0);
         Check.due("no byte at all", Check.told("").count(0), 0);
     }
@@ -273,7 +265,7 @@ final class LandBounds {
                 if (c == ' ') {
                     Check.due("a blank more", Check.typed(text + " ").land(), text.contains("v") ? 1 : 0);
                 } else {
-                    fault(text + (char) c, text.length() + (begins ? 1 : 0));
+                    Check.fault(text + (char) c, text.length() + (begins ? 1 : 0));
                 }
             }
         }
@@ -286,13 +278,13 @@ final class LandBounds {
             if (c == ';') {
                 Check.due("basket", Check.told(text).now(2), 9);
             } else if (c == ' ') {
-                fault(text, 3);
+                Check.fault(text, 3);
             } else if ('0' <= c && c <= '9') {
-                fault(text, 3);
+                Check.fault(text, 3);
                 Check.due("basket", Check.told(text + ";").now(2), 90 + c - '0');
             } else {
-                fault(text, 2);
-                fault("b9 " + (char) c + ";", 3);
+                Check.fault(text, 2);
+                Check.fault("b9 " + (char) c + ";", 3);
             }
         }
     }
@@ -301,16 +293,16 @@ final class LandBounds {
         for (int c = 0; c < 256; c++) {
             String text = "m" + (char) c;
             if ('a' <= c && c <= 'z') {
-                fault(text, 0);
-                fault("m " + (char) c, 2);
+                Check.fault(text, 0);
+                Check.fault("m " + (char) c, 2);
             } else if (c == ' ') {
-                fault(text, 2);
+                Check.fault(text, 2);
             } else if ('1' <= c && c <= '9') {
-                fault(text, 2);
+                Check.fault(text, 2);
                 Check.due("mouths", Check.told(text + ";").count(2), c - '0');
             } else {
-                fault(text, 1);
-                fault("m " + (char) c, 2);
+                Check.fault(text, 1);
+                Check.fault("m " + (char) c, 2);
             }
         }
     }
@@ -319,50 +311,50 @@ final class LandBounds {
         Doc.terms("TOKENS are letters a .. z side by side");
         for (char a = 'a'; a <= 'z'; a++) {
             for (char b = 'a'; b <= 'z'; b++) {
-                fault("" + a + b, 0);
+                Check.fault("" + a + b, 0);
             }
             boolean begins = "vrdmwb".indexOf(a) >= 0;
-            fault(a + " ", begins ? 2 : 0);
-            fault("v1 1 " + a + ";", 5);
-            fault("m1 " + a + ";", 3);
+            Check.fault(a + " ", begins ? 2 : 0);
+            Check.fault("v1 1 " + a + ";", 5);
+            Check.fault("m1 " + a + ";", 3);
         }
     }
 
     /** A byte's number is no NUMBER, nor is a NUMBER a letter: 98 is not b, and c is not 99. */
     private static void lettersForNumbers() {
         for (char a = 'a'; a <= 'z'; a++) {
-            fault("b " + a + ";", 2);
-            fault("v " + a + " 0 0;", 2);
-            fault(TWO + "d0 1 " + a + ";", 19);
-            fault(TWO + "r " + a + " 1 1;", 16);
+            Check.fault("b " + a + ";", 2);
+            Check.fault("v " + a + " 0 0;", 2);
+            Check.fault(TWO + "d0 1 " + a + ";", 19);
+            Check.fault(TWO + "r " + a + " 1 1;", 16);
         }
         for (int n = 0; n <= 99; n++) {
-            fault(n + " 5;", 0);
-            fault("m1;" + n + " 5;", 3);
+            Check.fault(n + " 5;", 0);
+            Check.fault("m1;" + n + " 5;", 3);
         }
     }
 
     private static void endedBySemicolon() {
         Doc.terms("ended by ; :");
-        fault("m1 w1;", 3);
-        fault("m1w1;", 2);
-        fault("m1 1;", 3);
-        fault("m1;;", 3);
-        fault(";", 0);
-        fault("m;", 1);
-        fault("v;", 1);
-        fault("v0;", 2);
-        fault("v0 0;", 4);
-        fault("v0 0 0 0;", 7);
-        fault("v0 0 0 v0 0 0;", 7);
-        fault(TWO + "r;", 15);
-        fault(TWO + "r0;", 16);
-        fault(TWO + "r0 1;", 18);
-        fault(TWO + "r0 1 1 1;", 21);
-        fault(TWO + "d;", 15);
-        fault(TWO + "d0;", 16);
-        fault(TWO + "d0 1;", 18);
-        fault(TWO + "d0 1 1 1;", 21);
+        Check.fault("m1 w1;", 3);
+        Check.fault("m1w1;", 2);
+        Check.fault("m1 1;", 3);
+        Check.fault("m1;;", 3);
+        Check.fault(";", 0);
+        Check.fault("m;", 1);
+        Check.fault("v;", 1);
+        Check.fault("v0;", 2);
+        Check.fault("v0 0;", 4);
+        Check.fault("v0 0 0 0;", 7);
+        Check.fault("v0 0 0 v0 0 0;", 7);
+        Check.fault(TWO + "r;", 15);
+        Check.fault(TWO + "r0;", 16);
+        Check.fault(TWO + "r0 1;", 18);
+        Check.fault(TWO + "r0 1 1 1;", 21);
+        Check.fault(TWO + "d;", 15);
+        Check.fault(TWO + "d0;", 16);
+        Check.fault(TWO + "d0 1;", 18);
+        Check.fault(TWO + "d0 1 1 1;", 21);
     }
 
     private static void toldAhead() {
@@ -370,13 +362,13 @@ final class LandBounds {
             for (int n = 2; n <= 6; n++) {
                 String villages = ONE.repeat(n);
                 Check.told(villages + letter + (n - 1) + " 0 1;" + letter + "0 " + (n - 1) + " 1;");
-                fault(villages + letter + n + " 0 1;", villages.length() + 1);
-                fault(villages + letter + "0 " + n + " 1;", villages.length() + 3);
-                fault(villages + letter + "99 0 1;", villages.length() + 1);
+                Check.fault(villages + letter + n + " 0 1;", villages.length() + 1);
+                Check.fault(villages + letter + "0 " + n + " 1;", villages.length() + 3);
+                Check.fault(villages + letter + "99 0 1;", villages.length() + 1);
             }
-            fault(letter + "0 1 1;" + TWO, 1);
-            fault(ONE + letter + "0 1 1;" + ONE, 10);
-            fault(ONE + letter + "1 0 1;" + ONE, 8);
+            Check.fault(letter + "0 1 1;" + TWO, 1);
+            Check.fault(ONE + letter + "0 1 1;" + ONE, 10);
+            Check.fault(ONE + letter + "1 0 1;" + ONE, 8);
             Check.told(ONE + "m1;" + ONE + letter + "0 1 1;" + ONE + letter + "2 0 1;");
         }
         KingPrices x = Check.told(SIX);
@@ -390,15 +382,15 @@ final class LandBounds {
         String[] above = {"100", "101", "109", "110", "199", "999", "1000", "2147483647", "2147483648", "4294967296", "4294967297",
             "4294967305", "9223372036854775808", "18446744073709551616", "18446744073709551617", "9".repeat(150)};
         for (String n : above) {
-            fault("b" + n + ";", 1);
-            fault("b " + n, 2);
-            fault("m1 " + n + ";", 3);
-            fault(n, 0);
-            fault("v" + n + " 0 0;", 1);
+            Check.fault("b" + n + ";", 1);
+            Check.fault("b " + n, 2);
+            Check.fault("m1 " + n + ";", 3);
+            Check.fault(n, 0);
+            Check.fault("v" + n + " 0 0;", 1);
         }
-        fault(TWO + "d0 1 100;", 19);
-        fault("m1" + "0".repeat(100) + ";", 1);
-        fault("w1" + "0".repeat(32) + ";", 1);
+        Check.fault(TWO + "d0 1 100;", 19);
+        Check.fault("m1" + "0".repeat(100) + ";", 1);
+        Check.fault("w1" + "0".repeat(32) + ";", 1);
     }
 
     private static void zeroAheadOfOthers() {
@@ -406,37 +398,37 @@ final class LandBounds {
         Check.due("0 alone", Check.told("b0;").now(2), 0);
         Check.due("0 behind", Check.told("b10;").now(2), 10);
         for (int n = 0; n <= 100; n++) {
-            fault("b0" + n + ";", 1);
-            fault("m1;b 00" + n, 5);
+            Check.fault("b0" + n + ";", 1);
+            Check.fault("m1;b 00" + n, 5);
         }
-        fault("v00 0 0;", 1);
-        fault("v0 00 0;", 3);
-        fault("v0 0 00;", 5);
-        fault("v0 0 01;", 5);
-        fault(TWO + "r00 1 1;", 15);
-        fault(TWO + "r0 01 1;", 17);
-        fault(TWO + "r0 1 01;", 19);
-        fault(TWO + "d0 1 09;", 19);
-        fault("m1 01;", 3);
-        fault("01", 0);
+        Check.fault("v00 0 0;", 1);
+        Check.fault("v0 00 0;", 3);
+        Check.fault("v0 0 00;", 5);
+        Check.fault("v0 0 01;", 5);
+        Check.fault(TWO + "r00 1 1;", 15);
+        Check.fault(TWO + "r0 01 1;", 17);
+        Check.fault(TWO + "r0 1 01;", 19);
+        Check.fault(TWO + "d0 1 09;", 19);
+        Check.fault("m1 01;", 3);
+        Check.fault("01", 0);
     }
 
     private static void firstFaultCounts() {
         Doc.terms("FAULT: the place of the first byte of the first TOKEN that can't stand there");
-        fault("v61 61 2!", 1);
-        fault("v60 61 2!", 4);
-        fault("v60 60 2!", 7);
-        fault("v60 60 1!", 8);
-        fault("v60 60 1;!", 9);
-        fault("v60 60 1;mm;!", 9);
-        fault("! v61", 0);
-        fault(TWO + "r2 2 0;", 15);
-        fault(TWO + "r1 1 0;", 17);
-        fault(TWO + "r1 0 0!", 19);
-        fault("m0;m0;", 1);
-        fault("m1;m0;", 3);
-        fault("  m  10  ;", 5);
-        fault("m 100 w 100", 2);
+        Check.fault("v61 61 2!", 1);
+        Check.fault("v60 61 2!", 4);
+        Check.fault("v60 60 2!", 7);
+        Check.fault("v60 60 1!", 8);
+        Check.fault("v60 60 1;!", 9);
+        Check.fault("v60 60 1;mm;!", 9);
+        Check.fault("! v61", 0);
+        Check.fault(TWO + "r2 2 0;", 15);
+        Check.fault(TWO + "r1 1 0;", 17);
+        Check.fault(TWO + "r1 0 0!", 19);
+        Check.fault("m0;m0;", 1);
+        Check.fault("m1;m0;", 3);
+        Check.fault("  m  10  ;", 5);
+        Check.fault("m 100 w 100", 2);
     }
 
     private static void endsTooEarlyAtEachPlace() {
@@ -448,9 +440,9 @@ final class LandBounds {
                 Check.due("land of \"" + cut + "\"", Check.typed(cut).land(), items++);
                 Check.due("land of \"" + cut + " \"", Check.typed(cut + " ").land(), items - 1);
             } else {
-                fault(cut, length);
-                fault(cut + " ", length + 1);
-                fault(cut + "     ", length + 5);
+                Check.fault(cut, length);
+                Check.fault(cut + " ", length + 1);
+                Check.fault(cut + "     ", length + 5);
             }
         }
         Check.due("items of all", items - 1, 7);
@@ -531,7 +523,7 @@ final class LandBounds {
         Check.due("land of the empty text", x.land(), 0);
         Check.due("villages then", x.count(0), 0);
         Check.due("court then", x.now(0), NONE);
-        fault("!", 0);
+        Check.fault("!", 0);
         KingPrices kept = Check.told(EVERY);
         Check.type(kept, "m1;w1;b1;v1 1 0;v2 2 0;v3 3 0;r0 1 3;d0 1 3");
         String before = Check.seen(kept);

@@ -23,14 +23,6 @@ public final class LandTest {
 
     private static void promise1NewObject() {
         KingPrices x = new KingPrices();
-        int[] counts = {0, 0, 3, 8, 0, 0};
-        for (int what = 0; what < counts.length; what++) {
-            Check.due("new: count(" + what + ")", x.count(what), counts[what]);
-        }
-        int[] now = {NONE, 0, 0, 0, 0, 0, 0};
-        for (int what = 0; what < now.length; what++) {
-            Check.due("new: now(" + what + ")", x.now(what), now[what]);
-        }
         Check.due("new: village(0, 0)", x.village(0, 0), BAD);
         Check.due("new: far(0, 0)", x.far(0, 0), BAD);
         Check.due("new: owes(0, 1)", x.owes(0, 1), BAD);
@@ -114,105 +106,97 @@ public final class LandTest {
         Check.due("villages", many.count(0), 6);
     }
 
-    private static void fault(String text, int place) {
-        KingPrices x = Check.typed(text);
-        String before = Check.seen(x);
-        Check.due("land of \"" + text + "\"", x.land(), -10 - place);
-        Check.alike("what is seen after the fault of \"" + text + "\"", Check.seen(x), before);
-        Check.due("clear after the fault of \"" + text + "\"", x.clear(), text.length());
-    }
-
     private static void promise4Faults() {
-        fault("v", 1);
-        fault("v   ", 4);
-        fault("v1", 2);
-        fault("v1 1", 4);
-        fault("v1 1 1", 6);
-        fault("v1 1 1;m", 8);
-        fault("v61 0 0;", 1);
-        fault("v60 61 0;", 4);
-        fault("v60 60 2;", 7);
-        fault("v60 60 1 1;", 9);
-        fault("v60 60;", 6);
-        fault("v60;", 3);
-        fault("v;", 1);
-        fault("v v", 2);
-        fault("v1 1 1 v1 1 1;", 7);
-        fault("v1 1 m;", 5);
-        fault(SIX + " v0 0 0;", SIX.length() + 1);
-        fault(SIX + "v", SIX.length());
-        fault(TWO + "r0 1 9;".repeat(10) + "r0 1 9;", 84);
-        fault(TWO + "r0 1 9;".repeat(10) + " r", 85);
-        fault(TWO + "r2 0 1;", 15);
-        fault(TWO + "r0 2 1;", 17);
-        fault(TWO + "r1 1 1;", 17);
-        fault(TWO + "r0 0 1;", 17);
-        fault(TWO + "r0 1 0;", 19);
-        fault(TWO + "r0 1 10;", 19);
-        fault(TWO + "r0 1;", 18);
-        fault(TWO + "r0 1 1 1;", 21);
-        fault(TWO + "d2 0 1;", 15);
-        fault(TWO + "d0 2 1;", 17);
-        fault(TWO + "d1 1 1;", 17);
-        fault(TWO + "d0 1 0;", 19);
-        fault(TWO + "d0 1 100;", 19);
-        fault("r0 1 1;" + TWO, 1);
-        fault("d0 1 1;" + TWO, 1);
-        fault("v0 0 0;r0 1 1;v0 0 0;", 10);
-        fault("m0;", 1);
-        fault("m10;", 1);
-        fault("m1 1;", 3);
-        fault("m;", 1);
-        fault("m1;m1;", 3);
-        fault("w11;", 1);
-        fault("w1;w1;", 3);
-        fault("w1 1;", 3);
-        fault("b100;", 1);
-        fault("b1;b1;", 3);
-        fault("b1;m1;w1;m", 9);
+        Check.fault("v", 1);
+        Check.fault("v   ", 4);
+        Check.fault("v1", 2);
+        Check.fault("v1 1", 4);
+        Check.fault("v1 1 1", 6);
+        Check.fault("v1 1 1;m", 8);
+        Check.fault("v61 0 0;", 1);
+        Check.fault("v60 61 0;", 4);
+        Check.fault("v60 60 2;", 7);
+        Check.fault("v60 60 1 1;", 9);
+        Check.fault("v60 60;", 6);
+        Check.fault("v60;", 3);
+        Check.fault("v;", 1);
+        Check.fault("v v", 2);
+        Check.fault("v1 1 1 v1 1 1;", 7);
+        Check.fault("v1 1 m;", 5);
+        Check.fault(SIX + " v0 0 0;", SIX.length() + 1);
+        Check.fault(SIX + "v", SIX.length());
+        Check.fault(TWO + "r0 1 9;".repeat(10) + "r0 1 9;", 84);
+        Check.fault(TWO + "r0 1 9;".repeat(10) + " r", 85);
+        Check.fault(TWO + "r2 0 1;", 15);
+        Check.fault(TWO + "r0 2 1;", 17);
+        Check.fault(TWO + "r1 1 1;", 17);
+        Check.fault(TWO + "r0 0 1;", 17);
+        Check.fault(TWO + "r0 1 0;", 19);
+        Check.fault(TWO + "r0 1 10;", 19);
+        Check.fault(TWO + "r0 1;", 18);
+        Check.fault(TWO + "r0 1 1 1;", 21);
+        Check.fault(TWO + "d2 0 1;", 15);
+        Check.fault(TWO + "d0 2 1;", 17);
+        Check.fault(TWO + "d1 1 1;", 17);
+        Check.fault(TWO + "d0 1 0;", 19);
+        Check.fault(TWO + "d0 1 100;", 19);
+        Check.fault("r0 1 1;" + TWO, 1);
+        Check.fault("d0 1 1;" + TWO, 1);
+        Check.fault("v0 0 0;r0 1 1;v0 0 0;", 10);
+        Check.fault("m0;", 1);
+        Check.fault("m10;", 1);
+        Check.fault("m1 1;", 3);
+        Check.fault("m;", 1);
+        Check.fault("m1;m1;", 3);
+        Check.fault("w11;", 1);
+        Check.fault("w1;w1;", 3);
+        Check.fault("w1 1;", 3);
+        Check.fault("b100;", 1);
+        Check.fault("b1;b1;", 3);
+        Check.fault("b1;m1;w1;m", 9);
     }
 
     private static void promise4FaultsOfTokens() {
-        fault(";", 0);
-        fault(" ;", 1);
-        fault("7", 0);
-        fault("m1;;", 3);
-        fault("m1;5;", 3);
-        fault("x1;", 0);
-        fault("a", 0);
-        fault("z", 0);
-        fault("mm1;", 0);
-        fault("vr", 0);
-        fault("m1;bb", 3);
-        fault("V1 1 1;", 0);
-        fault("v1 1 1;!", 7);
-        fault("v1 1 1;\t", 7);
-        fault("v1\n1 1;", 2);
-        fault("v1 1-1;", 4);
-        fault("v1 1 1;" + (char) 0, 7);
-        fault("" + (char) 255, 0);
-        fault("m" + (char) 160 + "1;", 1);
-        fault("m`1;", 1);
-        fault("m{1;", 1);
-        fault("m/1;", 1);
-        fault("m:1;", 1);
-        fault("v01 0 0;", 1);
-        fault("v00 0 0;", 1);
-        fault("v0 00 0;", 3);
-        fault("v0 0 01;", 5);
-        fault("b099;", 1);
-        fault("b 100;", 2);
-        fault("b4294967297;", 1);
-        fault("b18446744073709551617;", 1);
-        fault("b" + "9".repeat(179), 1);
-        fault("v aa 0 0;", 2);
-        fault("v0 0 aa;", 5);
-        fault("98 5;", 0);
-        fault("m1!", 2);
-        fault("m1 100", 3);
-        fault("m1 01", 3);
-        fault("v61 ! 0;", 1);
-        fault("v60 0 0;100", 8);
+        Check.fault(";", 0);
+        Check.fault(" ;", 1);
+        Check.fault("7", 0);
+        Check.fault("m1;;", 3);
+        Check.fault("m1;5;", 3);
+        Check.fault("x1;", 0);
+        Check.fault("a", 0);
+        Check.fault("z", 0);
+        Check.fault("mm1;", 0);
+        Check.fault("vr", 0);
+        Check.fault("m1;bb", 3);
+        Check.fault("V1 1 1;", 0);
+        Check.fault("v1 1 1;!", 7);
+        Check.fault("v1 1 1;\t", 7);
+        Check.fault("v1\n1 1;", 2);
+        Check.fault("v1 1-1;", 4);
+        Check.fault("v1 1 1;" + (char) 0, 7);
+        Check.fault("" + (char) 255, 0);
+        Check.fault("m" + (char) 160 + "1;", 1);
+        Check.fault("m`1;", 1);
+        Check.fault("m{1;", 1);
+        Check.fault("m/1;", 1);
+        Check.fault("m:1;", 1);
+        Check.fault("v01 0 0;", 1);
+        Check.fault("v00 0 0;", 1);
+        Check.fault("v0 00 0;", 3);
+        Check.fault("v0 0 01;", 5);
+        Check.fault("b099;", 1);
+        Check.fault("b 100;", 2);
+        Check.fault("b4294967297;", 1);
+        Check.fault("b18446744073709551617;", 1);
+        Check.fault("b" + "9".repeat(179), 1);
+        Check.fault("v aa 0 0;", 2);
+        Check.fault("v0 0 aa;", 5);
+        Check.fault("98 5;", 0);
+        Check.fault("m1!", 2);
+        Check.fault("m1 100", 3);
+        Check.fault("m1 01", 3);
+        Check.fault("v61 ! 0;", 1);
+        Check.fault("v60 0 0;100", 8);
     }
 
     private static void promise4NothingChangesByFault() {
