@@ -19,7 +19,21 @@ final class Doc {
 
     private Doc(String name, String words) {
         this.name = name;
-        this.words = words.replaceAll("```[a-z]*", " ").replaceAll("\\s+", " ").trim();
+        this.words = inOneLine(words);
+    }
+
+    private static String inOneLine(String words) {
+        return words.replaceAll("```[a-z]*", " ").replaceAll("\\s+", " ").trim();
+    }
+
+    /** The whole document. */
+    static String page() throws IOException {
+        return inOneLine(Files.readString(PAGE));
+    }
+
+    /** What a part says, by its number. */
+    static String words(int part) {
+        return PARTS.get(part).words;
     }
 
     /** Parts by number: 0 is 'Terms', the others are the promises. */

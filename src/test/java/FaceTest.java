@@ -5,6 +5,7 @@ import java.lang.reflect.Method;
 import java.lang.reflect.Modifier;
 import java.nio.file.Files;
 import java.nio.file.Path;
+import java.util.Arrays;
 import java.util.Set;
 import java.util.TreeSet;
 import java.util.regex.Matcher;
@@ -29,7 +30,6 @@ public final class FaceTest {
     public static void main(String[] args) throws IOException {
         theFace();
         theClassesInside();
-        staticFields();
         theSource(withoutComments(Files.readString(SOURCE)));
         Check.end();
     }
@@ -39,20 +39,12 @@ public final class FaceTest {
         Check.due("the class is public and final", c.getModifiers(), Modifier.PUBLIC | Modifier.FINAL);
         Set<String> want = new TreeSet<>(Set.of(FACE));
         Set<String> methods = new TreeSet<>();
-        Set<String> privates = new TreeSet<>();
         for (Method m : c.getDeclaredMethods()) {
-            if (Modifier.isPrivate(m.getModifiers())) {
-                privates.add(m.getName());
-            } else {
-                String form = m.toString().replaceAll("^public |KingPrices\\.", "");
-                methods.add(form);
+            if (!Modifier.isPrivate(m.getModifiers())) {
+                methods.add(m.toString().replaceAll("^public |KingPrices\\.", ""));
             }
         }
         Check.alike("the methods that can be seen", methods.toString(), want.toString());
-        for (String name : privates) {
-            boolean twice = want.stream().anyMatch(f -> f.contains(" " + name + "("));
-            Check.alike("a private method by a public name", twice ? name : "none", "none");
-        }
         Set<String> fields = new TreeSet<>();
         for (Field f : c.getDeclaredFields()) {
             if (!Modifier.isPrivate(f.getModifiers())) {
@@ -70,28 +62,32 @@ public final class FaceTest {
     private static void theClassesInside() {
         Class<?>[] inside = KingPrices.class.getDeclaredClasses();
         Check.due("twelve classes at most", Math.max(12, inside.length + 1), 12);
+        ofAnyClass(KingPrices.class);
         for (Class<?> c : inside) {
             Check.alike(c + " is static", Modifier.isStatic(c.getModifiers()) + "", "true");
             Check.alike(c + " can't be seen", Modifier.isPublic(c.getModifiers()) + "", "false");
-            int fields = 0;
-            for (Field f : c.getDeclaredFields()) {
-                fields += Modifier.isStatic(f.getModifiers()) ? 0 : 1;
-            }
-            Check.due(c + ": twenty fields at most", Math.max(20, fields), 20);
-            for (Method m : c.getDeclaredMethods()) {
-                Check.due(m + ": seven parameters at most", Math.max(7, m.getParameterCount()), 7);
-            }
+            Check.due(c + " has no class inside", c.getDeclaredClasses().length, 0);
+            ofAnyClass(c);
         }
     }
 
-    private static void staticFields() {
-        TreeSet<String> open = new TreeSet<>();
-        for (Field f : KingPrices.class.getDeclaredFields()) {
-            if (Modifier.isStatic(f.getModifiers()) && !Modifier.isFinal(f.getModifiers())) {
-                open.add(f.getName());
-            }
+    private static void ofAnyClass(Class<?> c) {
+        int fields = 0;
+        for (Field f : c.getDeclaredFields()) {
+            fields += Modifier.isStatic(f.getModifiers()) ? 0 : 1;
+            boolean open = Modifier.isStatic(f.getModifiers()) && !Modifier.isFinal(f.getModifiers());
+            Check.alike("a static field that isn't final", open ? f.toString() : "none", "none");
         }
-        Check.alike("static fields that aren't final", open.toString(), "[]");
+        Check.due(c + ": twenty fields at most", Math.max(20, fields), 20);
+        for (Method m : c.getDeclaredMethods()) {
+            Check.due(m + ": seven parameters at most", Math.max(7, m.getParameterCount()), 7);
+            boolean twice = Modifier.isPrivate(m.getModifiers()) && isInTheFace(m.getName());
+            Check.alike("a private method by a public name", twice ? m.toString() : "none", "none");
+        }
+    }
+
+    private static boolean isInTheFace(String name) {
+        return Arrays.stream(FACE).anyMatch(form -> form.contains(" " + name + "("));
     }
 
     private static String withoutComments(String source) {
